@@ -51,8 +51,8 @@ public final class FaceTest {
 
     private static void face() {
         Class<?> type = GhostRooms.class;
-        check(Modifier.isPublic(type.getModifiers()) && Modifier.isFinal(type.getModifiers()), "public and final");
-        check(type.getSuperclass() == Object.class && type.getInterfaces().length == 0, "no class above it");
+        check(Modifier.isPublic(type.getModifiers()) && Modifier.isFinal(type.getModifiers()), "rule 1: public and final");
+        check(type.getSuperclass() == Object.class && type.getInterfaces().length == 0, "rule 1: no class above it");
         List<String> found = new ArrayList<>();
         for (Method method : type.getDeclaredMethods()) {
             if (!isPrivate(method)) {
@@ -60,20 +60,20 @@ public final class FaceTest {
             }
         }
         Collections.sort(found);
-        check(found.equals(List.of(FACE)), "the methods are " + found);
+        check(found.equals(List.of(FACE)), "rule 1: the methods are " + found);
         for (Constructor<?> constructor : type.getDeclaredConstructors()) {
             check(Modifier.isPublic(constructor.getModifiers()) && constructor.getParameterCount() == 0,
-                "one constructor, public");
+                "rule 1: one constructor, public");
         }
         Set<String> constants = new HashSet<>();
         for (Field field : type.getDeclaredFields()) {
             if (!isPrivate(field)) {
                 constants.add(field.getName());
                 check(Modifier.isStatic(field.getModifiers()) && Modifier.isFinal(field.getModifiers())
-                    && Modifier.isPublic(field.getModifiers()) && field.getType() == int.class, field + " is a constant");
+                    && Modifier.isPublic(field.getModifiers()) && field.getType() == int.class, "rule 1: " + field + " is a constant");
             }
         }
-        check(constants.equals(CONSTANTS), "the constants are " + constants);
+        check(constants.equals(CONSTANTS), "rule 1: the constants are " + constants);
     }
 
     private static String signature(Method method) {
@@ -87,15 +87,15 @@ public final class FaceTest {
 
     private static void classes() {
         Class<?>[] inside = GhostRooms.class.getDeclaredClasses();
-        check(inside.length + 1 <= MOST_CLASSES, "too many classes");
+        check(inside.length + 1 <= MOST_CLASSES, "rule 11: too many classes");
         Set<String> publicNames = new HashSet<>();
         for (Method method : GhostRooms.class.getMethods()) {
             publicNames.add(method.getName());
         }
         checkMembers(GhostRooms.class, publicNames);
         for (Class<?> type : inside) {
-            check(Modifier.isStatic(type.getModifiers()), type + " is static");
-            check(!Modifier.isPublic(type.getModifiers()) && !Modifier.isProtected(type.getModifiers()), type + " is hidden");
+            check(Modifier.isStatic(type.getModifiers()), "rule 1: " + type + " is static");
+            check(!Modifier.isPublic(type.getModifiers()) && !Modifier.isProtected(type.getModifiers()), "rule 1: " + type + " is hidden");
             checkMembers(type, publicNames);
         }
     }
@@ -104,13 +104,13 @@ public final class FaceTest {
         int fields = 0;
         for (Field field : type.getDeclaredFields()) {
             boolean isStatic = Modifier.isStatic(field.getModifiers());
-            check(!isStatic || Modifier.isFinal(field.getModifiers()), field + " is final");
+            check(!isStatic || Modifier.isFinal(field.getModifiers()), "rule 5: " + field + " is final");
             fields += isStatic ? 0 : 1;
         }
-        check(fields <= MOST_FIELDS, type + " has too many fields");
+        check(fields <= MOST_FIELDS, "rule 11: " + type + " has too many fields");
         for (Method method : type.getDeclaredMethods()) {
-            check(!isPrivate(method) || !publicNames.contains(method.getName()), method + " bears a public name");
-            check(method.getParameterCount() <= 7, method + " has too many parameters");
+            check(!isPrivate(method) || !publicNames.contains(method.getName()), "rule 1: " + method + " bears a public name");
+            check(method.getParameterCount() <= 7, "rule 11: " + method + " has too many parameters");
         }
     }
 
@@ -118,9 +118,9 @@ public final class FaceTest {
         String code = source.replaceAll("(?s)/\\*.*?\\*/", " ").replaceAll("//[^\n]*", " ");
         for (String word : new String[] {"throw", "throws", "try", "catch", "synchronized", "assert", "import",
             "package", "hashCode", "toString", "equals", "native", "volatile", "transient", "var"}) {
-            check(!Pattern.compile("\\b" + word + "\\b").matcher(code).find(), "the word " + word + " stands there");
+            check(!Pattern.compile("\\b" + word + "\\b").matcher(code).find(), "rules 4, 6: the word " + word + " stands there");
         }
-        check(!code.contains("->") && !code.contains("::") && !code.contains("@"), "a lambda, a reference or a note");
+        check(!code.contains("->") && !code.contains("::") && !code.contains("@"), "rule 2: a lambda, a reference or a note");
         Matcher library = Pattern.compile("\\b([A-Z][A-Za-z]*)\\.([a-z][A-Za-z]*)\\(").matcher(code);
         Set<String> own = new HashSet<>();
         for (Class<?> type : GhostRooms.class.getDeclaredClasses()) {
@@ -129,9 +129,9 @@ public final class FaceTest {
         Set<String> allowed = Set.of("Integer.bitCount", "System.arraycopy");
         while (library.find()) {
             String call = library.group(1) + "." + library.group(2);
-            check(own.contains(library.group(1)) || allowed.contains(call), "the library's " + call);
+            check(own.contains(library.group(1)) || allowed.contains(call), "rule 4: the library's " + call);
         }
-        check(code.chars().allMatch(letter -> letter < 128), "a sign beyond 127");
+        check(code.chars().allMatch(letter -> letter < 128), "rule 4: a sign beyond 127");
         methodLengths(code);
     }
 
@@ -145,7 +145,7 @@ public final class FaceTest {
                 start = i;
                 end = head.group(1) + "}";
             } else if (start >= 0 && lines[i].equals(end)) {
-                check(i - start + 1 <= MOST_METHOD_LINES, "too long: " + lines[start].trim());
+                check(i - start + 1 <= MOST_METHOD_LINES, "rule 11: too long: " + lines[start].trim());
                 start = -1;
             }
         }
