@@ -75,6 +75,23 @@ public final class TermsTest {
         answer("last(0)", without.last(0), 1);
         without.seen(0, 0, 0);
         answer("said(1)", without.said(1), 64 + 32 + 16 + 8 + 4 + 2);
+        heirWhomThereWasBefore();
+    }
+
+    /** Whose heir he was in an earlier house is no matter. */
+    private static void heirWhomThereWasBefore() {
+        GhostRooms g = new GhostRooms();
+        for (int time = 0; time < 3; time++) {
+            answer("house() of six", Edges.tell(g, "p1 0;".repeat(6) + "r0;"), 7);
+            answer("house() of six again", Edges.tell(g, "p1 0;".repeat(6) + "r0;"), 7);
+            answer("house() of four", Edges.tell(g, "p1 9;p0 4;p0 5;p0 9;r1;r2;r0;"), 7);
+            for (int r = 0; r < 2; r++) {
+                answer("room(" + r + ", 1)", g.room(r, 1), NONE);
+                answer("room(" + r + ", 2)", g.room(r, 2), NONE);
+                answer("waits(0, " + r + ")", g.waits(0, r), NONE);
+            }
+            answer("last(0)", g.last(0), 1);
+        }
     }
 
     @Says(terms = 1, words = "ROOMS 0 .. (7 at most)")
